@@ -619,7 +619,6 @@ public final class PoisonPiles {
      * kept as long as the worths, the poison and the settings stay.
      */
     private static final class Solver {
-        private static final int[] PILE_STEPS = {1, 6, 36, 216};
         private static final int ALL_HEAPS = 1296;
         private static final int HEAPS_STEP = 18;
         private static final int FREE_STEP = 9;
@@ -634,10 +633,22 @@ public final class PoisonPiles {
         private final Game game;
         private final int[] values = new int[SPOTS];
         private final int[] results = new int[SPOTS];
+        // By the numbers of the moves: what a move takes off a spot once that is turned, and what it gains.
+        private final int[] steps = new int[PASS_MOVE + 1];
+        private final int[] gained = new int[PASS_MOVE + 1];
         private int knownRules = UNKNOWN;
 
         private Solver(Game game) {
             this.game = game;
+            int pileStep = HEAPS_STEP;
+            for (int move = 0; move < steps.length; move++) {
+                steps[move] = pileStep * (move % MOST_TOKENS + 1);
+                if (move % MOST_TOKENS == MOST_TOKENS - 1) {
+                    pileStep *= MOST_TOKENS + 1;
+                }
+            }
+            // A pass takes the mark that no pass is ahead, and one pass, which is the other player's once turned.
+            steps[PASS_MOVE] = FREE_STEP + 1;
         }
 
         private boolean isWon() {
@@ -647,9 +658,11 @@ public final class PoisonPiles {
         private int winningMoves() {
             int spot = spotNow();
             int moves = movesAt(spot);
+            int poison = poisonAt(spot);
+            int turned = turned(spot);
             int winningSet = 0;
             for (int move = 0; move <= PASS_MOVE; move++) {
-                if (isIn(moves, move) && winsBy(spot, move, 0)) {
+                if (isIn(moves, move) && winsBy(move, turned, isIn(poison, move), 0)) {
                     winningSet |= 1 << move;
                 }
             }
@@ -663,11 +676,13 @@ public final class PoisonPiles {
         private int bestMove() {
             int spot = spotNow();
             int moves = movesAt(spot);
+            int poison = poisonAt(spot);
+            int turned = turned(spot);
             int greatest = UNKNOWN;
             int found = NONE;
             for (int move = 0; move <= PASS_MOVE; move++) {
                 if (isIn(moves, move)) {
-                    int reached = valueBy(spot, move, 0);
+                    int reached = valueBy(move, turned, isIn(poison, move), 0);
                     if (reached > greatest) {
                         greatest = reached;
                         found = move;
@@ -678,17 +693,18 @@ public final class PoisonPiles {
         }
 
         private int spotNow() {
-            forgetOtherRules();
+            learnRules();
             int heaps = 0;
-            for (int i = 0; i < game.piles.length && i < PILE_STEPS.length; i++) {
-                heaps += game.piles[i].tokens * PILE_STEPS[i];
+            for (int i = game.piles.length - 1; i >= 0; i--) {
+                heaps = heaps * (MOST_TOKENS + 1) + game.piles[i].tokens;
             }
+            int free = game.passAhead ? 0 : 1;
             int mine = game.player(game.mover).passesLeft;
             int theirs = game.player(1 - game.mover).passesLeft;
-            return spotOf(heaps, game.passAhead ? 0 : 1, mine, theirs);
+            return heaps * HEAPS_STEP + free * FREE_STEP + mine * MINE_STEP + theirs;
         }
 
-        private void forgetOtherRules() {
+        private void learnRules() {
             int rules = game.takes * (MOST_BONUS + 1) + game.bonus;
             for (Pile pile : game.piles) {
                 rules = rules * 2 * (MOST_WORTH + 1) + 2 * pile.worth + (pile.poisoned ? 1 : 0);
@@ -696,12 +712,17 @@ public final class PoisonPiles {
             if (rules != knownRules) {
                 Arrays.fill(values, UNKNOWN);
                 Arrays.fill(results, UNKNOWN);
+                learnGains();
                 knownRules = rules;
             }
         }
 
-        private static int spotOf(int heaps, int free, int mine, int theirs) {
-            return heaps * HEAPS_STEP + free * FREE_STEP + mine * MINE_STEP + theirs;
+        private void learnGains() {
+            for (int move = 0; move < gained.length; move++) {
+                int pile = move / MOST_TOKENS;
+                boolean takes = pile < game.piles.length;
+                gained[move] = takes ? game.piles[pile].worth * (move % MOST_TOKENS + 1) : 0;
+            }
         }
 
         private static boolean isSpot(int spot, int depth) {
@@ -713,50 +734,39 @@ public final class PoisonPiles {
             boolean free = spot / FREE_STEP % 2 == 1;
             boolean canPass = free && heaps > 0 && spot / MINE_STEP % 3 > 0;
             int set = canPass ? 1 << PASS_MOVE : 0;
-            for (int i = 0; i < MOST_PILES; i++) {
-                set |= game.takesOutOf(tokensAt(spot, i)) << (MOST_TOKENS * i);
+            for (int first = 0; first < PASS_MOVE; first += MOST_TOKENS) {
+                set |= game.takesOutOf(heaps % (MOST_TOKENS + 1)) << first;
+                heaps /= MOST_TOKENS + 1;
             }
             return set;
         }
 
-        private static int tokensAt(int spot, int pile) {
+        /** The takes of last tokens of poisoned piles. */
+        private int poisonAt(int spot) {
             int heaps = spot / HEAPS_STEP;
-            for (int i = 0; i < pile; i++) {
+            int set = 0;
+            for (int i = 0; i < game.piles.length; i++) {
+                int tokens = heaps % (MOST_TOKENS + 1);
+                if (game.piles[i].poisoned && tokens > 0) {
+                    set |= 1 << takeMove(i, tokens);
+                }
                 heaps /= MOST_TOKENS + 1;
             }
-            return heaps % (MOST_TOKENS + 1);
+            return set;
         }
 
-        private static int spotBehind(int spot, int move) {
-            int heaps = spot / HEAPS_STEP;
+        /** The spot as the other player would see it if nothing were taken, and no pass were ahead. */
+        private static int turned(int spot) {
             int mine = spot / MINE_STEP % 3;
             int theirs = spot % 3;
-            int pile = move / MOST_TOKENS;
-            if (pile < 0 || pile >= PILE_STEPS.length) {
-                return spotOf(heaps, 0, theirs, mine - 1);
-            }
-            int taken = move % MOST_TOKENS + 1;
-            return spotOf(heaps - taken * PILE_STEPS[pile], 1, theirs, mine);
+            return spot - spot % HEAPS_STEP + FREE_STEP + theirs * MINE_STEP + mine;
         }
 
-        private boolean poisons(int spot, int move) {
-            int pile = move / MOST_TOKENS;
-            if (pile < 0 || pile >= game.piles.length) {
+        private boolean winsBy(int move, int turned, boolean poisons, int depth) {
+            if (poisons || move < 0 || move >= steps.length) {
                 return false;
             }
-            return game.piles[pile].poisoned && tokensAt(spot, pile) == move % MOST_TOKENS + 1;
-        }
-
-        private int gainedBy(int move) {
-            int pile = move / MOST_TOKENS;
-            if (pile < 0 || pile >= game.piles.length) {
-                return 0;
-            }
-            return game.piles[pile].worth * (move % MOST_TOKENS + 1);
-        }
-
-        private boolean winsBy(int spot, int move, int depth) {
-            return !poisons(spot, move) && !wonAt(spotBehind(spot, move), depth + 1);
+            return !wonAt(turned - steps[move], depth + 1);
         }
 
         private boolean wonAt(int spot, int depth) {
@@ -765,9 +775,11 @@ public final class PoisonPiles {
             }
             if (results[spot] == UNKNOWN) {
                 int moves = movesAt(spot);
+                int poison = poisonAt(spot);
+                int turned = turned(spot);
                 int result = LOST;
                 for (int move = 0; move <= PASS_MOVE && result == LOST; move++) {
-                    if (isIn(moves, move) && winsBy(spot, move, depth)) {
+                    if (isIn(moves, move) && winsBy(move, turned, isIn(poison, move), depth)) {
                         result = WON;
                     }
                 }
@@ -776,12 +788,14 @@ public final class PoisonPiles {
             return results[spot] == WON;
         }
 
-        private int valueBy(int spot, int move, int depth) {
-            int gained = gainedBy(move);
-            if (poisons(spot, move)) {
-                return gained - game.bonus;
+        private int valueBy(int move, int turned, boolean poisons, int depth) {
+            if (move < 0 || move >= steps.length || move >= gained.length) {
+                return UNKNOWN;
             }
-            return gained - valueAt(spotBehind(spot, move), depth + 1);
+            if (poisons) {
+                return gained[move] - game.bonus;
+            }
+            return gained[move] - valueAt(turned - steps[move], depth + 1);
         }
 
         private int valueAt(int spot, int depth) {
@@ -790,10 +804,12 @@ public final class PoisonPiles {
             }
             if (values[spot] == UNKNOWN) {
                 int moves = movesAt(spot);
+                int poison = poisonAt(spot);
+                int turned = turned(spot);
                 int greatest = moves == 0 ? -game.bonus : UNKNOWN;
                 for (int move = 0; move <= PASS_MOVE; move++) {
                     if (isIn(moves, move)) {
-                        greatest = Math.max(greatest, valueBy(spot, move, depth));
+                        greatest = Math.max(greatest, valueBy(move, turned, isIn(poison, move), depth));
                     }
                 }
                 values[spot] = greatest;
