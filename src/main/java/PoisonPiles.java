@@ -28,7 +28,7 @@ public final class PoisonPiles {
     private final Game draft = new Game();
     private final History history = new History();
     private final Slot[] slots = new Slot[SLOTS];
-    private final Solver solver = new Solver(now);
+    private final Solver solver = new Solver();
     private final Sizes sizes = new Sizes();
     private final Pad pad = new Pad();
 
@@ -132,19 +132,19 @@ public final class PoisonPiles {
         if (now.isOver()) {
             return NOT_POSSIBLE;
         }
-        return solver.isWon() ? 1 : 0;
+        return solver.isWon(now) ? 1 : 0;
     }
 
     public int winning() {
-        return now.isOver() ? NOT_POSSIBLE : solver.winningMoves();
+        return now.isOver() ? NOT_POSSIBLE : solver.winningMoves(now);
     }
 
     public int value() {
-        return now.isOver() ? NOT_POSSIBLE : solver.difference() + 1000;
+        return now.isOver() ? NOT_POSSIBLE : solver.difference(now) + 1000;
     }
 
     public int best() {
-        return now.isOver() ? NOT_POSSIBLE : solver.bestMove();
+        return now.isOver() ? NOT_POSSIBLE : solver.bestMove(now);
     }
 
     public int grundy(int tokens) {
@@ -314,20 +314,24 @@ public final class PoisonPiles {
         }
         int played = 0;
         while (played < moves && !now.isOver()) {
-            now.make(solver.bestMove());
+            now.make(solver.bestMove(now));
             played++;
         }
         return played;
     }
 
     private int carryOutOrder(int at) {
-        switch (pad.at(at)) {
-            case '+': return carryOutPile(at);
-            case '-': return takeTokens(pad.digitAt(at + 1), pad.digitAt(at + 3));
-            case 'p': return usePass();
-            case 'm': return playOn(1);
-            default: return givePasses(pad.digitAt(at + 1), pad.digitAt(at + 2));
+        char sign = pad.at(at);
+        if (sign == '+') {
+            return carryOutPile(at);
         }
+        if (sign == '-') {
+            return takeTokens(pad.digitAt(at + 1), pad.digitAt(at + 3));
+        }
+        if (sign == 'r') {
+            return givePasses(pad.digitAt(at + 1), pad.digitAt(at + 2));
+        }
+        return sign == 'p' ? usePass() : playOn(1);
     }
 
     private int carryOutPile(int at) {
@@ -387,6 +391,10 @@ public final class PoisonPiles {
 
     private static boolean isIn(int set, int move) {
         return ((set >> move) & 1) == 1;
+    }
+
+    private static int takesOutOf(int tokens, int takes, int pile) {
+        return (takes & ((1 << tokens) - 1)) << (MOST_TOKENS * pile);
     }
 
     private static int takeMove(int pile, int tokens) {
@@ -487,17 +495,13 @@ public final class PoisonPiles {
             return sum;
         }
 
-        private int takesOutOf(int tokens) {
-            return takes & ((1 << tokens) - 1);
-        }
-
         private int moveSet() {
             if (poisonEnded) {
                 return 0;
             }
             int set = 0;
             for (int i = 0; i < piles.length; i++) {
-                set |= takesOutOf(piles[i].tokens) << (MOST_TOKENS * i);
+                set |= takesOutOf(piles[i].tokens, takes, i);
             }
             if (player(mover).passesLeft > 0 && !passAhead && tokenSum() > 0) {
                 set |= 1 << PASS_MOVE;
@@ -591,13 +595,13 @@ public final class PoisonPiles {
             }
         }
 
-        // The oldest row moves to the end, to be used again.
+        // Row by row the oldest one moves to the end, to be used again.
         private void dropOldest() {
-            Game oldest = states[0];
             for (int i = 1; i < states.length; i++) {
+                Game oldest = states[i - 1];
                 states[i - 1] = states[i];
+                states[i] = oldest;
             }
-            states[states.length - 1] = oldest;
             size--;
         }
 
@@ -630,33 +634,34 @@ public final class PoisonPiles {
         private static final int LOST = 0;
         private static final int WON = 1;
 
-        private final Game game;
         private final int[] values = new int[SPOTS];
         private final int[] results = new int[SPOTS];
         // By the numbers of the moves: what a move takes off a spot once that is turned, and what it gains.
         private final int[] steps = new int[PASS_MOVE + 1];
         private final int[] gained = new int[PASS_MOVE + 1];
+        private int takes;
+        private int bonus;
+        private int poisonedPiles;
         private int knownRules = UNKNOWN;
 
-        private Solver(Game game) {
-            this.game = game;
+        private Solver() {
             int pileStep = HEAPS_STEP;
             for (int move = 0; move < steps.length; move++) {
-                steps[move] = pileStep * (move % MOST_TOKENS + 1);
-                if (move % MOST_TOKENS == MOST_TOKENS - 1) {
+                int tokens = move % MOST_TOKENS + 1;
+                // A pass takes the mark that no pass is ahead, and one pass, which is the other player's once turned.
+                steps[move] = move == PASS_MOVE ? FREE_STEP + 1 : pileStep * tokens;
+                if (tokens == MOST_TOKENS) {
                     pileStep *= MOST_TOKENS + 1;
                 }
             }
-            // A pass takes the mark that no pass is ahead, and one pass, which is the other player's once turned.
-            steps[PASS_MOVE] = FREE_STEP + 1;
         }
 
-        private boolean isWon() {
-            return wonAt(spotNow(), 0);
+        private boolean isWon(Game game) {
+            return wonAt(spotOf(game), 0);
         }
 
-        private int winningMoves() {
-            int spot = spotNow();
+        private int winningMoves(Game game) {
+            int spot = spotOf(game);
             int moves = movesAt(spot);
             int poison = poisonAt(spot);
             int turned = turned(spot);
@@ -669,12 +674,12 @@ public final class PoisonPiles {
             return winningSet;
         }
 
-        private int difference() {
-            return valueAt(spotNow(), 0);
+        private int difference(Game game) {
+            return valueAt(spotOf(game), 0);
         }
 
-        private int bestMove() {
-            int spot = spotNow();
+        private int bestMove(Game game) {
+            int spot = spotOf(game);
             int moves = movesAt(spot);
             int poison = poisonAt(spot);
             int turned = turned(spot);
@@ -692,8 +697,8 @@ public final class PoisonPiles {
             return found;
         }
 
-        private int spotNow() {
-            learnRules();
+        private int spotOf(Game game) {
+            learnRules(game);
             int heaps = 0;
             for (int i = game.piles.length - 1; i >= 0; i--) {
                 heaps = heaps * (MOST_TOKENS + 1) + game.piles[i].tokens;
@@ -704,7 +709,7 @@ public final class PoisonPiles {
             return heaps * HEAPS_STEP + free * FREE_STEP + mine * MINE_STEP + theirs;
         }
 
-        private void learnRules() {
+        private void learnRules(Game game) {
             int rules = game.takes * (MOST_BONUS + 1) + game.bonus;
             for (Pile pile : game.piles) {
                 rules = rules * 2 * (MOST_WORTH + 1) + 2 * pile.worth + (pile.poisoned ? 1 : 0);
@@ -712,16 +717,24 @@ public final class PoisonPiles {
             if (rules != knownRules) {
                 Arrays.fill(values, UNKNOWN);
                 Arrays.fill(results, UNKNOWN);
-                learnGains();
+                takes = game.takes;
+                bonus = game.bonus;
+                learnPiles(game);
                 knownRules = rules;
             }
         }
 
-        private void learnGains() {
-            for (int move = 0; move < gained.length; move++) {
-                int pile = move / MOST_TOKENS;
-                boolean takes = pile < game.piles.length;
-                gained[move] = takes ? game.piles[pile].worth * (move % MOST_TOKENS + 1) : 0;
+        private void learnPiles(Game game) {
+            poisonedPiles = 0;
+            for (int i = 0; i < game.piles.length; i++) {
+                Pile pile = game.piles[i];
+                poisonedPiles |= pile.poisoned ? 1 << i : 0;
+                for (int tokens = 1; tokens <= MOST_TOKENS; tokens++) {
+                    int move = takeMove(i, tokens);
+                    if (move >= 0 && move < gained.length) {
+                        gained[move] = pile.worth * tokens;
+                    }
+                }
             }
         }
 
@@ -734,8 +747,8 @@ public final class PoisonPiles {
             boolean free = spot / FREE_STEP % 2 == 1;
             boolean canPass = free && heaps > 0 && spot / MINE_STEP % 3 > 0;
             int set = canPass ? 1 << PASS_MOVE : 0;
-            for (int first = 0; first < PASS_MOVE; first += MOST_TOKENS) {
-                set |= game.takesOutOf(heaps % (MOST_TOKENS + 1)) << first;
+            for (int i = 0; i < MOST_PILES; i++) {
+                set |= takesOutOf(heaps % (MOST_TOKENS + 1), takes, i);
                 heaps /= MOST_TOKENS + 1;
             }
             return set;
@@ -745,9 +758,9 @@ public final class PoisonPiles {
         private int poisonAt(int spot) {
             int heaps = spot / HEAPS_STEP;
             int set = 0;
-            for (int i = 0; i < game.piles.length; i++) {
+            for (int i = 0; i < MOST_PILES; i++) {
                 int tokens = heaps % (MOST_TOKENS + 1);
-                if (game.piles[i].poisoned && tokens > 0) {
+                if (isIn(poisonedPiles, i) && tokens > 0) {
                     set |= 1 << takeMove(i, tokens);
                 }
                 heaps /= MOST_TOKENS + 1;
@@ -793,7 +806,7 @@ public final class PoisonPiles {
                 return UNKNOWN;
             }
             if (poisons) {
-                return gained[move] - game.bonus;
+                return gained[move] - bonus;
             }
             return gained[move] - valueAt(turned - steps[move], depth + 1);
         }
@@ -806,7 +819,7 @@ public final class PoisonPiles {
                 int moves = movesAt(spot);
                 int poison = poisonAt(spot);
                 int turned = turned(spot);
-                int greatest = moves == 0 ? -game.bonus : UNKNOWN;
+                int greatest = moves == 0 ? -bonus : UNKNOWN;
                 for (int move = 0; move <= PASS_MOVE; move++) {
                     if (isIn(moves, move)) {
                         greatest = Math.max(greatest, valueBy(move, turned, isIn(poison, move), depth));
@@ -956,14 +969,16 @@ public final class PoisonPiles {
         }
 
         private static int placeBehindSign(char c) {
-            switch (c) {
-                case '+': return PILE_TOKENS;
-                case '-': return TAKE_PILE;
-                case 'r': return FIRST_PASSES;
-                case 'p':
-                case 'm': return END;
-                default: return NOTHING;
+            if (c == '+') {
+                return PILE_TOKENS;
             }
+            if (c == '-') {
+                return TAKE_PILE;
+            }
+            if (c == 'r') {
+                return FIRST_PASSES;
+            }
+            return c == 'p' || c == 'm' ? END : NOTHING;
         }
 
         private static int placeBehindPile(char c) {
