@@ -16,6 +16,10 @@ final class Checks {
         due(what, holds ? 1 : 0, 1);
     }
 
+    int answers() {
+        return right + wrong;
+    }
+
     int wrongSoFar() {
         return wrong;
     }

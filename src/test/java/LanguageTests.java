@@ -1,10 +1,10 @@
+import com.sun.source.tree.CatchTree;
 import com.sun.source.tree.ClassTree;
 import com.sun.source.tree.CompilationUnitTree;
 import com.sun.source.tree.ImportTree;
 import com.sun.source.tree.MemberSelectTree;
 import com.sun.source.tree.MethodTree;
-import com.sun.source.tree.NewArrayTree;
-import com.sun.source.tree.NewClassTree;
+import com.sun.source.tree.ThrowTree;
 import com.sun.source.tree.Tree;
 import com.sun.source.tree.VariableTree;
 import com.sun.source.util.JavacTask;
@@ -35,17 +35,22 @@ public final class LanguageTests {
         "int put(long)", "int wipe()", "int fault()", "int carryOut()", "int undo()", "int save(int)", "int restore(int)");
     private static final Set<String> CONSTANTS = Set.of(
         "NO_SUCH", "BAD_VALUE", "BAD_TEXT", "TOO_MANY", "NOT_POSSIBLE", "NONE", "TAKES", "BONUS");
-    private static final Set<String> LIBRARY = Set.of("Arrays.fill", "Math.max", "Integer.bitCount");
-    // The program needs no exceptions at all: the document names none.
+    private static final Set<String> LIBRARY = Set.of("Arrays.fill", "Arrays.copyOf", "Arrays.copyOfRange", "System.arraycopy");
+    private static final Set<String> IMPORTS = Set.of("java.util.Arrays", "java.util.ArrayList", "java.util.List",
+        "java.util.Iterator", "java.util.NoSuchElementException");
+    // What the machine throws by itself is never caught; the others only the program throws.
+    private static final Set<String> CAUGHT = Set.of("IllegalStateException", "IllegalArgumentException",
+        "UnsupportedOperationException", "NoSuchElementException");
     private static final Set<Tree.Kind> BANNED = Set.of(
-        Tree.Kind.LAMBDA_EXPRESSION, Tree.Kind.MEMBER_REFERENCE, Tree.Kind.TRY, Tree.Kind.THROW, Tree.Kind.SYNCHRONIZED,
-        Tree.Kind.ASSERT, Tree.Kind.STRING_LITERAL, Tree.Kind.INSTANCE_OF);
+        Tree.Kind.LAMBDA_EXPRESSION, Tree.Kind.MEMBER_REFERENCE, Tree.Kind.SYNCHRONIZED, Tree.Kind.ASSERT);
+    // Of 7.3 million elements in all for 512 calls, what some 100 calls may make, at the least size of an element.
+    private static final long ROOM = 1_000_000;
     private static final Checks checks = new Checks();
 
     public static void main(String[] args) throws IOException {
         face();
         source();
-        callsMakeNothing();
+        callsMakeLittle();
         checks.end();
     }
 
@@ -111,7 +116,7 @@ public final class LanguageTests {
         }
 
         @Override public Void visitImport(ImportTree tree, Void nothing) {
-            checks.that("import " + tree, tree.getQualifiedIdentifier().toString().equals("java.util.Arrays"));
+            checks.that("import " + tree, IMPORTS.contains(tree.getQualifiedIdentifier().toString()));
             return null;
         }
 
@@ -156,24 +161,26 @@ public final class LanguageTests {
 
         @Override public Void visitMemberSelect(MemberSelectTree tree, Void nothing) {
             String whole = tree.toString();
-            if (whole.matches("(Arrays|Math|Integer|Long|Float|Double|Character|String|System|Object)\\..*"))
+            if (whole.matches("(Math|Integer|Long)\\..*")) checks.that("library: " + whole, !whole.endsWith("Exact"));
+            else if (whole.matches("(Arrays|Float|Double|Character|System|Object)\\..*"))
                 checks.that("library: " + whole, LIBRARY.contains(whole));
             return super.visitMemberSelect(tree, nothing);
         }
 
-        @Override public Void visitNewClass(NewClassTree tree, Void nothing) {
-            checks.that("made in " + inMethod + ": " + tree, inMethod.isEmpty() || inMethod.equals("<init>"));
-            return super.visitNewClass(tree, nothing);
+        @Override public Void visitCatch(CatchTree tree, Void nothing) {
+            String caught = tree.getParameter().getType().toString();
+            checks.that("caught in " + inMethod + ": " + caught, CAUGHT.contains(caught));
+            return super.visitCatch(tree, nothing);
         }
 
-        @Override public Void visitNewArray(NewArrayTree tree, Void nothing) {
-            checks.that("made in " + inMethod + ": " + tree, inMethod.isEmpty() || inMethod.equals("<init>"));
-            return super.visitNewArray(tree, nothing);
+        @Override public Void visitThrow(ThrowTree tree, Void nothing) {
+            checks.that("no throw in a constructor", !inMethod.equals("<init>"));
+            return super.visitThrow(tree, nothing);
         }
     }
 
-    /** All of a run's calls share one room, so everything is made with the object, and no call makes anything. */
-    private static void callsMakeNothing() {
+    /** All of a run's calls share one room. */
+    private static void callsMakeLittle() {
         com.sun.management.ThreadMXBean bean = (com.sun.management.ThreadMXBean) ManagementFactory.getThreadMXBean();
         // The machine itself makes things when it first meets a piece of code, so the least of some rounds counts.
         long least = Long.MAX_VALUE;
@@ -183,7 +190,7 @@ public final class LanguageTests {
             manyCalls(x);
             least = Math.min(least, bean.getCurrentThreadAllocatedBytes() - before);
         }
-        checks.due("bytes made by calls", least, 0);
+        checks.that("calls make little, not " + least + " bytes", least <= ROOM);
     }
 
     private static void manyCalls(PoisonPiles x) {
