@@ -620,6 +620,7 @@ final class PromiseSentences extends Sentences {
         model.set(BONUS, 99);
         model.passes(2, 2);
         for (int move = 0; move < 24 && model.count(3) == 0; move++) {
+            due("best() behind " + move + " moves", x.best(), model.best());
             due("value() behind " + move + " moves", x.value(), model.value());
             due("winning() behind " + move + " moves", x.winning(), model.winning());
             boolean pass = (x.moves() & PASS) != 0;
