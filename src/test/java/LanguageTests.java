@@ -4,6 +4,7 @@ import com.sun.source.tree.CompilationUnitTree;
 import com.sun.source.tree.ImportTree;
 import com.sun.source.tree.MemberSelectTree;
 import com.sun.source.tree.MethodTree;
+import com.sun.source.tree.NewClassTree;
 import com.sun.source.tree.ThrowTree;
 import com.sun.source.tree.Tree;
 import com.sun.source.tree.VariableTree;
@@ -38,6 +39,8 @@ public final class LanguageTests {
     private static final Set<String> LIBRARY = Set.of("Arrays.fill", "Arrays.copyOf", "Arrays.copyOfRange", "System.arraycopy");
     private static final Set<String> IMPORTS = Set.of("java.util.Arrays", "java.util.ArrayList", "java.util.List",
         "java.util.Iterator", "java.util.NoSuchElementException");
+    private static final Set<String> MADE = Set.of("Game", "History", "Slot", "Solver", "Sizes", "Pad", "Pile",
+        "Player", "StringBuilder");
     // What the machine throws by itself is never caught; the others only the program throws.
     private static final Set<String> CAUGHT = Set.of("IllegalStateException", "IllegalArgumentException",
         "UnsupportedOperationException", "NoSuchElementException");
@@ -84,11 +87,23 @@ public final class LanguageTests {
         try (StandardJavaFileManager files = compiler.getStandardFileManager(null, null, null)) {
             JavacTask task = (JavacTask) compiler.getTask(null, files, null, List.of("-proc:none"), null,
                 files.getJavaFileObjects(new File(SOURCE)));
-            for (CompilationUnitTree unit : task.parse()) {
+            Iterable<? extends CompilationUnitTree> units = task.parse();
+            task.analyze();
+            for (CompilationUnitTree unit : units) {
                 Look look = new Look(unit, Trees.instance(task).getSourcePositions());
                 look.scan(unit, null);
                 look.closing();
+                callChains(new CallChains(Trees.instance(task), unit));
             }
+        }
+    }
+
+    private static void callChains(CallChains chains) {
+        checks.that("calls were looked at", chains.calls() > 100);
+        checks.that("eight deep at the most: " + chains.longest(), chains.longest().size() <= 8);
+        for (MethodTree method : chains.recursive()) {
+            boolean carriesDepth = method.getParameters().stream().anyMatch(p -> p.getName().contentEquals("depth"));
+            checks.that("carries the depth: " + method.getName(), carriesDepth);
         }
     }
 
@@ -128,8 +143,10 @@ public final class LanguageTests {
             int fields = 0;
             for (Tree member : tree.getMembers()) {
                 if (member instanceof VariableTree field) {
-                    boolean constant = field.getModifiers().getFlags().contains(javax.lang.model.element.Modifier.STATIC);
+                    Set<javax.lang.model.element.Modifier> flags = field.getModifiers().getFlags();
+                    boolean constant = flags.contains(javax.lang.model.element.Modifier.STATIC);
                     if (!constant) fields++;
+                    else checks.that("final: " + field, flags.contains(javax.lang.model.element.Modifier.FINAL));
                 } else if (member instanceof MethodTree method) {
                     checks.that(tree.getSimpleName() + "." + method.getName() + " bears a name of the face",
                         outer && isPublic(method) || !isOfFace(method.getName()));
@@ -145,6 +162,11 @@ public final class LanguageTests {
 
         private static boolean isOfFace(Name name) {
             return FACE.stream().anyMatch(signature -> signature.startsWith("int " + name + "("));
+        }
+
+        @Override public Void visitNewClass(NewClassTree tree, Void nothing) {
+            checks.that("made: " + tree, MADE.contains(tree.getIdentifier().toString()));
+            return super.visitNewClass(tree, nothing);
         }
 
         @Override public Void visitMethod(MethodTree tree, Void nothing) {
